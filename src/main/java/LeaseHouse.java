@@ -36,7 +36,7 @@ public final class LeaseHouse {
     private int tape = NO_NAME;
     private int now = 0;
 
-    /** The sort is not kept: names are found by their numbers' order, so nothing is hashed. */
+    /** The sort is not kept: a name is looked for by its number itself, so nothing is hashed. */
     public LeaseHouse(int sort) {
         for (int client = 0; client < CLIENTS; client++) {
             boxes[client] = new NoteBox();
@@ -99,7 +99,10 @@ public final class LeaseHouse {
             return REFUSED;
         }
         Thing thing = findThing(tape);
-        int place = thing == null ? NONE : thing.placeOf(client);
+        if (thing == null) {
+            return NONE;
+        }
+        int place = thing.placeOf(client);
         if (place == NONE) {
             return NONE;
         }
