@@ -46,5 +46,11 @@ public final class Promise03EraseTest {
                 return house;
             }, BusyHouse.with(""));
         }
+        LeaseHouse house = BusyHouse.make(0, "a");
+        house.erase();
+        int[] counts = {BusyHouse.NOW, 3, 6, 5, 4, 4, 0, 13};
+        for (int what = 0; what < counts.length; what++) {
+            check.due("count(" + what + ") after erase()", house.count(what), counts[what]);
+        }
     }
 }

@@ -23,6 +23,7 @@ public final class Promise04WantTest {
         aClientMayHoldAndWaitForOtherNames();
         aNameThatIsFreeAgainIsLent();
         whoHeldItMayWaitAgain();
+        onlyALeaseThatBeganIsTold();
         check.end();
     }
 
@@ -167,5 +168,18 @@ public final class Promise04WantTest {
         house.leave(1);
         check.due("want(1, 5) by who left", house.want(1, 5), 1);
         check.due("want(2, 5) by who waited and holds it now", house.want(2, 5), LeaseHouse.NONE);
+    }
+
+    private static void onlyALeaseThatBeganIsTold() {
+        LeaseHouse house = Check.houseWith("c");
+        house.watch(9);
+        house.want(1, 5);
+        check.due("changes", house.count(6), 1);
+        house.want(2, 5);
+        house.want(2, 5);
+        house.want(1, 5);
+        check.due("changes, when others wait", house.count(6), 1);
+        check.due("note(9), a lease began", house.note(9), 1);
+        check.due("note(9)", house.note(9), LeaseHouse.NONE);
     }
 }

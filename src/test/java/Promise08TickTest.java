@@ -18,6 +18,7 @@ public final class Promise08TickTest {
         anEarlierTickComesBeforeNamesOrder();
         thoseStartedAreUntilLater();
         thoseStartedEndInLaterTicksOfTheCall();
+        allRowsOfAllNamesMayEndInOneCall();
         startsAmongEndsKeepTheNamesOrder();
         waitsAreCountedTillTheTickOfTheStart();
         aLeaseThatWasFreedDoesNotEndAgain();
@@ -131,6 +132,26 @@ public final class Promise08TickTest {
             house.want(client, 10);
         }
         check.due("tick(60) ends all in one call", house.tick(60), 6);
+    }
+
+    private static void allRowsOfAllNamesMayEndInOneCall() {
+        LeaseHouse house = new LeaseHouse(0);
+        for (char letter = 'a'; letter <= 'z'; letter++) {
+            house.erase();
+            house.sign(letter);
+            for (int client = 0; client < 6; client++) {
+                house.want(client, 1);
+            }
+        }
+        check.due("tick(5)", house.tick(5), 26 * 5);
+        check.due("leases", house.count(1), 26);
+        check.due("all who wait", house.count(2), 0);
+        check.due("tick(1)", house.tick(1), 26);
+        check.due("leases", house.count(1), 0);
+        for (int client = 0; client < 6; client++) {
+            house.want(client, 1);
+        }
+        check.due("tick(60)", house.tick(60), 6);
     }
 
     private static void startsAmongEndsKeepTheNamesOrder() {

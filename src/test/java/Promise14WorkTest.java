@@ -142,8 +142,10 @@ public final class Promise14WorkTest {
     }
 
     private static void theLeastDueIsReached() {
-        LeaseHouse house = giveJobs(new int[][] {{0, Check.LEAST}});
-        check.due("work()", house.work(), 0);
+        LeaseHouse house = giveJobs(new int[][] {{0, Check.LEAST}, {1, Check.LEAST}});
+        check.due("work() at 0", house.work(), 0);
+        house.tick(60);
+        check.due("work() at 60", house.work(), 1);
     }
 
     private static void greatestAndLeastNumbersKeepTheirOrder() {

@@ -15,6 +15,7 @@ public final class Promise19NoteTest {
         eightAreOfEachClient();
         theOldestGoesWhateverItsName();
         clients0And15HaveNotes();
+        eachClientAloneHasNotes();
         aFullTapeIsWrittenOver();
         onlyTheNoteGoes();
         check.end();
@@ -140,6 +141,18 @@ public final class Promise19NoteTest {
         house.erase();
         check.due("note(15)", house.note(15), 1);
         check.tapeIs(house, "c");
+    }
+
+    private static void eachClientAloneHasNotes() {
+        for (int watcher = 0; watcher < 16; watcher++) {
+            LeaseHouse house = Check.houseWith("c");
+            house.watch(watcher);
+            house.want(1, 5);
+            for (int client = 0; client < 16; client++) {
+                check.due("note(" + client + ") when " + watcher + " watches", house.note(client),
+                        client == watcher ? 1 : LeaseHouse.NONE);
+            }
+        }
     }
 
     private static void aFullTapeIsWrittenOver() {
