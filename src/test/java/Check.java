@@ -23,6 +23,14 @@ final class Check {
         due(call, got ? 1 : 0, want ? 1 : 0);
     }
 
+    void due(String what, String got, String want) {
+        answers++;
+        if (!got.equals(want)) {
+            wrong++;
+            System.out.println(what + " is " + got + ", due is " + want);
+        }
+    }
+
     void tapeIs(LeaseHouse house, String name) {
         for (int k = 0; k < name.length(); k++) {
             due("letter(" + k + ") of " + name, house.letter(k), name.charAt(k));
